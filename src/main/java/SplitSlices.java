@@ -9,9 +9,14 @@ import java.util.NoSuchElementException;
 public final class SplitSlices {
     public static final int NONE = -1;
 
-    /** Answers below NONE: there is none, or it is so already; there is no room, or the sheet is missing. */
+    /** Answers below NONE, by what they tell. */
     private static final int NO_SUCH = -2;
-    private static final int FULL = -3;
+    private static final int IS_SO = -2;
+    private static final int IN_ALL = -2;
+    private static final int NO_LENGTH = -2;
+    private static final int SIX_ROWS = -2;
+    private static final int EIGHT_CUTS = -3;
+    private static final int MISSING = -3;
 
     private static final int LAST_WHOLE = 6;
     private static final int WHOLES = 7;
@@ -110,13 +115,13 @@ public final class SplitSlices {
         }
         boolean missing = kind == 3;
         if (n < 0 && !missing) {
-            return NO_SUCH;
+            return NO_LENGTH;
         }
         for (int k = 0; k < now.rowCount; k++) {
             boolean isThere = !missing && k < n;
             now.putBound(k, isThere ? Math.floorMod(sheetEntry(kind, f + k * step), 51) : 0);
         }
-        return missing ? FULL : now.rowCount;
+        return missing ? MISSING : now.rowCount;
     }
 
     private static int sheetEntry(int kind, int value) {
@@ -161,8 +166,8 @@ public final class SplitSlices {
             return 0;
         }
         numbers.clear();
-        numbers.tell(slice.low);
-        numbers.tell(slice.high);
+        numbers.tellRatio(slice.low);
+        numbers.tellRatio(slice.high);
         return 1;
     }
 
@@ -184,7 +189,7 @@ public final class SplitSlices {
                 return r;
             }
         }
-        return NO_SUCH;
+        return IN_ALL;
     }
 
     public int splits(int r, int x, int y, int d) {
@@ -215,7 +220,7 @@ public final class SplitSlices {
         numbers.tell(second);
         if (r < SLICED_REGIONS - 1) {
             regions.findLongest(r, ratio);
-            numbers.tell(ratio);
+            numbers.tellRatio(ratio);
         }
         return first + second;
     }
@@ -246,17 +251,17 @@ public final class SplitSlices {
         if (!isWay(way) || (side != 0 && side != 1) || k < 0 || k > LAST_CUT) {
             return NONE;
         }
-        regions.workOut(now, 0);
+        regions.workOutFirst(now);
         return finder.find(now, regions, way, side, k) ? 1 : NO_SUCH;
     }
 
     public int stores(int way, int side, int k) {
         history.open(now);
-        return noted(storeCut(way, side, k));
+        return noted(storeFound(findCut(way, side, k)));
     }
 
-    private int storeCut(int way, int side, int k) {
-        int answer = findCut(way, side, k);
+    /** What findCut() answered goes on if it refuses. */
+    private int storeFound(int answer) {
         return answer < 0 ? answer : now.addCut(finder.found);
     }
 
@@ -312,7 +317,7 @@ public final class SplitSlices {
         }
         ratio.put(now.cutExcess(first, x, y, d), d);
         numbers.clear();
-        numbers.tell(ratio);
+        numbers.tellRatio(ratio);
         return first;
     }
 
@@ -360,7 +365,7 @@ public final class SplitSlices {
         ratio.put(points.distance(first, x, y, d), (long) d * d);
         numbers.clear();
         points.tell(first, numbers);
-        numbers.tell(ratio);
+        numbers.tellRatio(ratio);
         return asNear;
     }
 
@@ -373,7 +378,7 @@ public final class SplitSlices {
             return NO_SUCH;
         }
         numbers.clear();
-        numbers.tell(mosts[what].best);
+        numbers.tellRatio(mosts[what].best);
         return 0;
     }
 
@@ -390,7 +395,7 @@ public final class SplitSlices {
             points.gather(now, NONE);
             most.overPoints(points);
         } else {
-            regions.workOut(now, 0);
+            regions.workOutFirst(now);
             most.overSlices(regions, what - 1);
         }
     }
@@ -408,9 +413,9 @@ public final class SplitSlices {
         int way = mosts[2].best.isBelow(mosts[1].best) ? 1 : 0;
         numbers.clear();
         ratio.putDifference(mosts[0].best, mosts[1 + way].best);
-        numbers.tell(ratio);
+        numbers.tellRatio(ratio);
         ratio.putDifference(mosts[0].best, mosts[3].best);
-        numbers.tell(ratio);
+        numbers.tellRatio(ratio);
         return way;
     }
 
@@ -454,32 +459,27 @@ public final class SplitSlices {
 
     public int day() {
         int wrongSign = text.dayFault();
-        int answer = wrongSign != NONE ? -1 - wrongSign : doDay();
-        text.shorten(0);
-        return answer;
-    }
-
-    private int doDay() {
+        if (wrongSign != NONE) {
+            text.shorten(0);
+            return -1 - wrongSign;
+        }
         history.open(now);
         int done = 0;
-        int failed = 0;
         int p = 0;
-        for (int acts = 0; acts < MOST_SIGNS && p < text.size() && failed == 0; acts++) {
-            if (act(p) < 0) {
-                failed = 1;
-            } else {
-                done++;
-            }
+        for (int acts = 0; acts < MOST_SIGNS && p < text.size() && act(p) >= 0; acts++) {
             p += text.actLength(p);
+            done++;
         }
         if (done > 0) {
             history.close();
         }
         numbers.clear();
-        numbers.tell(failed);
+        numbers.tell(p < text.size() ? 1 : 0);
+        text.shorten(0);
         return done;
     }
 
+    /** Does the ACT that begins at p, whose signs have been looked at. */
     private int act(int p) {
         switch (text.at(p)) {
             case 'b':
@@ -487,7 +487,7 @@ public final class SplitSlices {
             case 'd':
                 return now.dropRow(text.number(p + 1, 1));
             case 's':
-                return storeCut(text.number(p + 1, 1), text.number(p + 2, 1), text.number(p + 3, 1));
+                return storeFound(findCut(text.number(p + 1, 1), text.number(p + 2, 1), text.number(p + 3, 1)));
             default:
                 return now.dropCuts();
         }
@@ -629,7 +629,6 @@ public final class SplitSlices {
         private boolean empty = true;
         private final Ratio low = new Ratio();
         private final Ratio high = new Ratio();
-        private final Ratio bound = new Ratio();
 
         void fill() {
             empty = false;
@@ -637,27 +636,23 @@ public final class SplitSlices {
             high.put(LAST_WHOLE, 1);
         }
 
-        void capLow(Ratio least) {
-            if (low.isBelow(least)) {
-                low.copy(least);
-            }
-        }
-
-        void capHigh(Ratio greatest) {
-            if (greatest.isBelow(high)) {
-                high.copy(greatest);
-            }
-        }
-
         /** Narrows by: across times what lies in it is at most rest. */
-        void capBy(int across, int rest) {
-            bound.put(rest, across);
-            if (across > 0) {
-                capHigh(bound);
-            } else if (across < 0) {
-                capLow(bound);
-            } else if (rest < 0) {
+        void capBy(int across, long rest) {
+            if (across > 0 && rest * high.low < high.up * across) {
+                high.put(rest, across);
+            } else if (across < 0 && rest * low.low < low.up * across) {
+                low.put(rest, across);
+            } else if (across == 0 && rest < 0) {
                 empty = true;
+            }
+        }
+
+        void meet(Slice other) {
+            if (low.isBelow(other.low)) {
+                low.copy(other.low);
+            }
+            if (other.high.isBelow(high)) {
+                high.copy(other.high);
             }
         }
 
@@ -750,7 +745,7 @@ public final class SplitSlices {
             }
             int before = part(k, 2);
             if (before == c) {
-                return NO_SUCH;
+                return IS_SO;
             }
             putBound(k, c);
             return 100 + before;
@@ -760,8 +755,8 @@ public final class SplitSlices {
             if (!isRow(a, b, c)) {
                 return NONE;
             }
-            if (rowCount == MOST_ROWS) {
-                return NO_SUCH;
+            if (rowCount >= MOST_ROWS) {
+                return SIX_ROWS;
             }
             append(a, b, c);
             return rowCount;
@@ -793,8 +788,8 @@ public final class SplitSlices {
         }
 
         int addCut(long[] cut) {
-            if (cutCount == MOST_CUTS) {
-                return FULL;
+            if (cutCount < 0 || cutCount >= MOST_CUTS) {
+                return EIGHT_CUTS;
             }
             System.arraycopy(cut, 0, cuts[cutCount], 0, CUT_NUMBERS);
             cutCount++;
@@ -866,15 +861,21 @@ public final class SplitSlices {
         }
 
         void workOut(Plan plan, int last) {
-            for (int region = 0; region <= last && region < SLICED_REGIONS; region++) {
+            workOutFirst(plan);
+            for (int region = 1; region <= last && region < SLICED_REGIONS; region++) {
                 for (int way = 0; way < 2; way++) {
                     for (int k = 0; k < WHOLES; k++) {
-                        if (region == 0) {
-                            boundByRows(plan, way, k);
-                        } else {
-                            boundBySplits(region, way, k);
-                        }
+                        boundBySplits(region, way, k);
                     }
+                }
+            }
+        }
+
+        /** REGION 0 alone. */
+        void workOutFirst(Plan plan) {
+            for (int way = 0; way < 2; way++) {
+                for (int k = 0; k < WHOLES; k++) {
+                    boundByRows(plan, way, k);
                 }
             }
         }
@@ -910,8 +911,7 @@ public final class SplitSlices {
                 }
             }
             if (!slice.empty) {
-                slice.capLow(before.low);
-                slice.capHigh(before.high);
+                slice.meet(before);
                 slice.emptyIfCrossed();
             }
         }
@@ -1403,7 +1403,7 @@ public final class SplitSlices {
             }
         }
 
-        void tell(Ratio ratio) {
+        void tellRatio(Ratio ratio) {
             tell(ratio.up);
             tell(ratio.low);
         }
