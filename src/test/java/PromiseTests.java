@@ -361,6 +361,7 @@ public final class PromiseTests {
             due("others", s.cut(n[0], n[1], n[2]), SplitSlices.NONE);
             due("others", s.stores(n[0], n[1], n[2]), SplitSlices.NONE);
         }
+        due("the last k", new SplitSlices().cut(1, 0, 5), 1);
         SplitSlices twice = with("+2x+4y<8;+1x+2y<4");
         due("the first row", twice.cut(0, 0, 0), 1);
         told(twice, 1, 2, 4, 0, 0, 1, 2, 0, 1, 1, 2, 0, 1);
@@ -521,6 +522,8 @@ public final class PromiseTests {
         told(s, 34, 1);
         due("WHOLE", s.most(9, 9, 3), 0);
         told(s, 63, 1);
+        due("-9", s.most(-9, -9, 0), 0);
+        told(s, 0, 1);
         due("0", s.most(0, 0, 0), 0);
         told(s, 0, 1);
         SplitSlices half = with("+1x+2y<5");
@@ -620,6 +623,9 @@ public final class PromiseTests {
             due("read", s.count(5), 0);
         }
         told(s, 1);
+        due("way, SIDE, k", day(s, "cs013"), 2);
+        due("LOW", s.checks(0), 1);
+        told(s, 0, -1, 0);
         due("nothing is done", day(s, "b0+06c?"), -7);
         rowsAre(s, 1, 1, 5);
 
@@ -653,7 +659,15 @@ public final class PromiseTests {
         due("rows", u.undo(), 0);
         rowsAre(u);
         due("none", u.undo(), SplitSlices.NONE);
-        u.adds(1, 1, 0);
+        u.adds(1, 1, 20);
+        u.adds(1, 1, 19);
+        u.stores(0, 0, 0);
+        u.stores(0, 0, 0);
+        due("the second", u.undo(), 3);
+        due("the first stays", u.count(1), 1);
+        u.undo();
+        due("the second", u.undo(), 1);
+        rowsAre(u, 1, 1, 20);
         for (int c = 1; c <= 10; c++) {
             u.becomes(0, c);
         }
@@ -673,6 +687,7 @@ public final class PromiseTests {
         for (long[] want : YEARS) {
             SplitSlices z = with("+1x+2y<9;+3x-1y<8");
             due("years", z.years((int) want[0], (int) want[1]), want[2]);
+            due("once more", z.years((int) want[0], (int) want[1]), want[2]);
             told(z, want[3], want[4]);
             rowsAre(z, 1, 2, 9, 3, -1, 8);
             due("forgotten", z.count(3), 1);
