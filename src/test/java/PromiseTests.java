@@ -609,6 +609,7 @@ public final class PromiseTests {
         due("none done", day(s, "d7c"), 0);
         told(s, 1);
         due("not kept", s.count(3), 3);
+        due("80 ACTS", day(new SplitSlices(), "c".repeat(80)), 80);
         due("empty", day(s, ""), 0);
         told(s, 0);
         due("not kept", s.count(3), 3);
@@ -672,6 +673,7 @@ public final class PromiseTests {
             u.becomes(0, c);
         }
         due("8 are kept", u.count(3), 8);
+        due("a refused one takes none of them away", u.becomes(0, 10), -2);
         for (int left = 7; left >= 0; left--) {
             due("left", u.undo(), left);
         }
