@@ -1,84 +1,5 @@
-import java.util.NoSuchElementException;
-
 /** Each promise by itself: ordinary inputs, the edges that the document names, wrong inputs. Worked out by hand. */
-public final class PromiseTests {
-    private static int wrong = 0;
-    private static int asked = 0;
-    private static int promise = 0;
-
-    private static void due(String what, long got, long want) {
-        asked++;
-        if (got != want) {
-            wrong++;
-            System.out.println("promise " + promise + ": " + what + " answered " + got + ", due is " + want);
-        }
-    }
-
-    private static void due(String what, boolean got, boolean want) {
-        due(what, got ? 1 : 0, want ? 1 : 0);
-    }
-
-    /** The whole ROW OF NUMBERS. */
-    private static void told(SplitSlices s, long... want) {
-        due("count(4)", s.count(4), want.length);
-        for (int i = 0; i < want.length && i < s.count(4); i++) {
-            due("told(" + i + ")", s.told(i), want[i]);
-        }
-    }
-
-    private static void type(SplitSlices s, String text) {
-        for (int i = 0; i < text.length(); i += 4) {
-            int v = 0;
-            for (int j = i; j < i + 4; j++) {
-                v = v << 8 | (j < text.length() ? text.charAt(j) : '?');
-            }
-            s.sign(v);
-        }
-        due("end", s.end(text.length()), true);
-    }
-
-    private static int rows(SplitSlices s, String text) {
-        type(s, text);
-        return s.rows();
-    }
-
-    private static int day(SplitSlices s, String text) {
-        type(s, text);
-        return s.day();
-    }
-
-    private static SplitSlices with(String rows) {
-        SplitSlices s = new SplitSlices();
-        due("rows of " + rows, rows(s, rows) >= 0, true);
-        return s;
-    }
-
-    /** Whether all told ROWS are these: a, b, c of each. */
-    private static void rowsAre(SplitSlices s, int... want) {
-        due("count(0)", s.count(0), want.length / 3);
-        for (int i = 0; i < want.length && i / 3 < s.count(0); i++) {
-            due("row(" + i / 3 + ", " + i % 3 + ")", s.row(i / 3, i % 3), want[i]);
-        }
-    }
-
-    private static boolean rowThrows(SplitSlices s, int k, int what) {
-        try {
-            s.row(k, what);
-            return false;
-        } catch (NoSuchElementException e) {
-            return true;
-        }
-    }
-
-    private static boolean toldThrows(SplitSlices s, int i) {
-        try {
-            s.told(i);
-            return false;
-        } catch (NoSuchElementException e) {
-            return true;
-        }
-    }
-
+public final class PromiseTests extends Check {
     public static void main(String[] args) {
         texts();
         rowsByHand();
@@ -88,16 +9,13 @@ public final class PromiseTests {
         sums();
         days();
         kept();
-        System.out.println(wrong == 0 ? "promises: " + asked + " answers as due" : "promises: " + wrong + " answers are not as due");
-        if (wrong != 0) {
-            System.exit(1);
-        }
+        close("promises");
     }
 
     // ---- 1 to 5
 
     private static void texts() {
-        promise = 1;
+        about("promise 1");
         SplitSlices s = new SplitSlices();
         int[] box = {-1, 0, 0, 1, 0, 6, 0, -1, 0, 0, 1, 6};
         for (int i = 0; i < box.length; i++) {
@@ -108,7 +26,7 @@ public final class PromiseTests {
         }
         due("again", s.again(0), false);
 
-        promise = 2;
+        about("promise 2");
         s = new SplitSlices();
         due("sign", s.sign('+' << 24 | '1' << 16 | 'x' << 8 | 'y'), 4);
         due("rows", s.rows(), -4);
@@ -123,7 +41,7 @@ public final class PromiseTests {
         due("end", s.end(76), true);
         due("80", s.sign(0), 80);
 
-        promise = 3;
+        about("promise 3");
         s = new SplitSlices();
         due("none", s.end(0), true);
         due("1 of none", s.end(1), false);
@@ -137,7 +55,7 @@ public final class PromiseTests {
         due("signs", s.count(5), 2);
         due("the first ones", s.day(), 2);
 
-        promise = 4;
+        about("promise 4");
         s = new SplitSlices();
         due("two", rows(s, "+1x-2y<4;-0x+5y<-13"), 2);
         rowsAre(s, 1, -2, 4, 0, 5, -13);
@@ -166,7 +84,7 @@ public final class PromiseTests {
         due("signs first", rows(s, "+0x+0y<1;+1x+1y<1x"), -1 - 17);
         rowsAre(s, 1, 1, 50, 1, 1, -50);
 
-        promise = 5;
+        about("promise 5");
         s = with("+1x-2y<4");
         rowsAre(s, 1, -2, 4);
         due("behind", s.row(1, 0), -1);
@@ -181,7 +99,7 @@ public final class PromiseTests {
     // ---- 6 to 9
 
     private static void rowsByHand() {
-        promise = 6;
+        about("promise 6");
         SplitSlices s = with("+1x+0y<1;+0x+1y<2;+1x+1y<3");
         due("bytes", s.sheet(0, 3, 127, 1), 3);
         rowsAre(s, 1, 0, 25, 0, 1, 25, 1, 1, 26);
@@ -205,7 +123,7 @@ public final class PromiseTests {
         due("as ahead of rows()", s.undo(), 0);
         rowsAre(s);
 
-        promise = 7;
+        about("promise 7");
         s = with("+1x+0y<1;+0x+1y<-50");
         due("was 1", s.becomes(0, 50), 101);
         due("was -50", s.becomes(1, -49), 50);
@@ -217,7 +135,7 @@ public final class PromiseTests {
         }
         due("undone", s.count(3), 3);
 
-        promise = 8;
+        about("promise 8");
         s = new SplitSlices();
         due("first", s.adds(5, -5, 50), 1);
         due("second", s.adds(0, 1, -50), 2);
@@ -233,7 +151,7 @@ public final class PromiseTests {
         due("NONE ahead", s.adds(0, 0, 7), SplitSlices.NONE);
         due("the four behind", s.row(6, 0), -1);
 
-        promise = 9;
+        about("promise 9");
         due("goes", s.drops(1), 5);
         rowsAre(s, 5, -5, 50, 1, 1, 3, 1, 1, 4, 1, 1, 5, 1, 1, 6);
         due("last", s.drops(4), 4);
@@ -246,7 +164,7 @@ public final class PromiseTests {
     // ---- 10 to 14
 
     private static void regions() {
-        promise = 10;
+        about("promise 10");
         SplitSlices s = with("+1x+2y<5");
         due("x = 0", s.slice(0, 0, 0), 1);
         told(s, 0, 1, 5, 2);
@@ -276,7 +194,7 @@ public final class PromiseTests {
         }
         told(low, 0, 1, 6, 1);
 
-        promise = 11;
+        about("promise 11");
         due("on the row", s.inside(0, 0, 5, 2), 1);
         due("beyond", s.inside(0, 1, 5, 2), 0);
         due("9 by 4", s.inside(0, 0, 9, 4), 1);
@@ -290,7 +208,7 @@ public final class PromiseTests {
         due("thin, no slice", with("+2x+0y<1;-3x+0y<-1").inside(0, 5, 0, 12), 1);
         due("thin, no slice", with("+2x+0y<1;-3x+0y<-1").inside(1, 5, 0, 12), 0);
 
-        promise = 12;
+        about("promise 12");
         due("REGION 0", s.round(3, 3, 1), 0);
         due("REGION 1", s.round(0, 9, 4), 1);
         due("REGION 2", two.round(2, 1, 2), 2);
@@ -298,7 +216,7 @@ public final class PromiseTests {
         notPoints((x, y, d) -> s.round(x, y, d));
         due("REGION 3", with("+5x+5y<12").round(3, 4, 3), 3);
 
-        promise = 13;
+        about("promise 13");
         due("by way 1", s.splits(0, 0, 9, 4), 1);
         told(s, 0, 1);
         SplitSlices peak = with("-1x+1y<2;+1x+1y<7");
@@ -313,7 +231,7 @@ public final class PromiseTests {
         due("r 3", peak.splits(3, 0, 0, 1), SplitSlices.NONE);
         due("r -1", peak.splits(-1, 0, 0, 1), SplitSlices.NONE);
 
-        promise = 14;
+        about("promise 14");
         due("REGION 0", s.slices(0), 9);
         told(s, 6, 3, 5, 2);
         due("REGION 1", s.slices(1), 9);
@@ -329,22 +247,10 @@ public final class PromiseTests {
         due("of way 1 alone", with("+2x+0y<1;-3x+0y<-1").slices(0), 7);
     }
 
-    private interface Ask {
-        int of(int x, int y, int d);
-    }
-
-    private static void notPoints(Ask ask) {
-        int[][] no = {{0, 0, 0}, {0, 0, 13}, {0, 0, -1}, {7, 0, 1}, {0, 7, 1}, {-1, 0, 1}, {0, -1, 1}, {73, 0, 12},
-            {0, 0, Integer.MIN_VALUE}, {1, 1, Integer.MAX_VALUE}, {Integer.MAX_VALUE, 0, 1}};
-        for (int[] n : no) {
-            due("no point", ask.of(n[0], n[1], n[2]), SplitSlices.NONE);
-        }
-    }
-
     // ---- 15 to 20
 
     private static void cuts() {
-        promise = 15;
+        about("promise 15");
         SplitSlices s = with("-2x+3y<4;+4x+5y<40");
         due("two rows", s.cut(0, 0, 4), 1);
         told(s, 0, 1, 4, 0, 1, 1, 3, 2, 3, 1, 5, 4, 5);
@@ -366,7 +272,7 @@ public final class PromiseTests {
         due("the first row", twice.cut(0, 0, 0), 1);
         told(twice, 1, 2, 4, 0, 0, 1, 2, 0, 1, 1, 2, 0, 1);
 
-        promise = 16;
+        about("promise 16");
         due("stored", s.stores(0, 0, 4), 1);
         due("an empty slice", s.stores(1, 1, 4), -2);
         for (int i = 2; i <= 8; i++) {
@@ -378,7 +284,7 @@ public final class PromiseTests {
         due("count", s.count(1), 8);
         due("kept", s.count(3), 8);
 
-        promise = 17;
+        about("promise 17");
         s = with("-2x+3y<4;+4x+5y<40");
         s.stores(0, 0, 4);
         due("checks", s.checks(0), 1);
@@ -409,7 +315,7 @@ public final class PromiseTests {
         due("none such", s.checks(1), SplitSlices.NONE);
         due("none such", s.checks(-1), SplitSlices.NONE);
 
-        promise = 18;
+        about("promise 18");
         SplitSlices t = with("+2x+2y<3");
         t.stores(0, 0, 0);
         due("stronger", t.stronger(0), 1);
@@ -430,13 +336,13 @@ public final class PromiseTests {
         due("none such", below.stronger(-1), SplitSlices.NONE);
         told(below, 0, 1, 0, 0);
 
-        promise = 19;
+        about("promise 19");
         due("two", below.clears(), 2);
         due("none", below.count(1), 0);
         due("none", below.clears(), 0);
         due("undone", below.undo() >= 0 && below.undo() >= 0 && below.count(1) == 2, true);
 
-        promise = 20;
+        about("promise 20");
         SplitSlices b = with("+2x+2y<3");
         due("none stored", b.breaks(0, 0, 1), -2);
         due("NONE ahead", b.breaks(0, 0, 0), SplitSlices.NONE);
@@ -456,7 +362,7 @@ public final class PromiseTests {
     // ---- 21 to 23
 
     private static void wholePoints() {
-        promise = 21;
+        about("promise 21");
         SplitSlices s = with("-1x+1y<2;+1x+1y<7;-1x-1y<-1");
         due("wholes", s.wholes(), 25);
         told(s, 0, 1, 6, 1);
@@ -467,7 +373,7 @@ public final class PromiseTests {
         due("none", s.wholes(), 0);
         told(s);
 
-        promise = 22;
+        about("promise 22");
         SplitSlices h = with("-1x+1y<2;+1x+1y<7");
         due("hull", h.hull(), 6);
         told(h, 0, 0, 6, 0, 6, 1, 3, 4, 2, 4, 0, 2);
@@ -487,7 +393,7 @@ public final class PromiseTests {
         due("three", tri.hull(), 3);
         told(tri, 0, 0, 1, 0, 0, 1);
 
-        promise = 23;
+        about("promise 23");
         SplitSlices n = new SplitSlices();
         due("four", n.nearest(3, 3, 2), 4);
         told(n, 1, 1, 1, 2);
@@ -510,7 +416,7 @@ public final class PromiseTests {
     // ---- 24 to 27
 
     private static void sums() {
-        promise = 24;
+        about("promise 24");
         SplitSlices s = with("-1x+1y<2;+1x+1y<7");
         due("REGION 0", s.most(0, 2, 0), 0);
         told(s, 9, 1);
@@ -547,7 +453,7 @@ public final class PromiseTests {
         }
         told(thin, -1, 3);
 
-        promise = 25;
+        about("promise 25");
         due("way 1 gives more", half.gains(0, 1), 1);
         told(half, 1, 2, 1, 2);
         due("equal ones", s.gains(0, 1), 0);
@@ -562,7 +468,7 @@ public final class PromiseTests {
         due("others", s.gains(-10, 0), SplitSlices.NONE);
         told(s, 1, 2, 1, 2);
 
-        promise = 26;
+        about("promise 26");
         SplitSlices six = new SplitSlices();
         for (int i = 0; i < 6; i++) {
             six.adds(1, 0, 4);
@@ -580,7 +486,7 @@ public final class PromiseTests {
         due("nothing changes", six.count(0), 6);
         told(six, 35);
 
-        promise = 27;
+        about("promise 27");
         due("equal ones", six.tightest(), 0);
         told(six, 35);
         SplitSlices t = with("+1x+0y<4;+0x+1y<2;+1x+1y<50");
@@ -595,7 +501,7 @@ public final class PromiseTests {
     // ---- 28 to 30
 
     private static void days() {
-        promise = 28;
+        about("promise 28");
         SplitSlices s = with("+1x+1y<4;+1x-1y<3");
         due("all", day(s, "b0+05b1+02s000s111cd1"), 6);
         told(s, 0);
@@ -630,7 +536,7 @@ public final class PromiseTests {
         due("nothing is done", day(s, "b0+06c?"), -7);
         rowsAre(s, 1, 1, 5);
 
-        promise = 29;
+        about("promise 29");
         SplitSlices u = new SplitSlices();
         due("none", u.undo(), SplitSlices.NONE);
         rows(u, "+1x+1y<4");
@@ -680,7 +586,7 @@ public final class PromiseTests {
         rowsAre(u, 1, 1, 2);
         due("none", u.undo(), SplitSlices.NONE);
 
-        promise = 30;
+        about("promise 30");
         // 1: a draw of 3 is 16838 % 3 = 2, drops() of none
         SplitSlices y = new SplitSlices();
         due("refused", y.years(1, 1), 49);
@@ -716,7 +622,7 @@ public final class PromiseTests {
     // ---- 31 to 34
 
     private static void kept() {
-        promise = 31;
+        about("promise 31");
         SplitSlices s = with("+2x+2y<3");
         s.stores(0, 0, 0);
         due("keep", s.keep(0), true);
@@ -727,7 +633,7 @@ public final class PromiseTests {
         s.clears();
         due("keep another", s.keep(1), true);
 
-        promise = 32;
+        about("promise 32");
         due("again", s.again(0), true);
         rowsAre(s, 2, 2, 3);
         due("stored", s.checks(0), 1);
@@ -747,7 +653,7 @@ public final class PromiseTests {
         due("nothing kept", new SplitSlices().again(1), false);
         due("a refused one does not forget", s.count(3), 1);
 
-        promise = 33;
+        about("promise 33");
         SplitSlices c = with("+2x+2y<3;+1x+0y<5");
         c.stores(0, 0, 0);
         c.stores(0, 1, 0);
@@ -763,7 +669,7 @@ public final class PromiseTests {
         due("others", c.count(7), SplitSlices.NONE);
         due("others", c.count(-1), SplitSlices.NONE);
 
-        promise = 34;
+        about("promise 34");
         due("last", c.told(3), 1);
         due("none such", toldThrows(c, 4), true);
         due("none such", toldThrows(c, -1), true);
