@@ -90,6 +90,13 @@ public final class CutsEdgeTests extends Check {
         due("no ROWS", rows(s, ""), 0);
         due("neither ROW is there", s.checks(1), 0);
 
+        SplitSlices half = with("+2x+4y<8;+4x+2y<50");
+        half.stores(0, 0, 0);
+        due("u is 1 by 2, s 0 by 1", half.checks(0), 1);
+        told(half, 1, 2, 4);
+        half.becomes(0, 9);
+        due("a bit wider", half.checks(0), 0);
+
         words(17, "NONE: no such");
         for (int i : new int[] {2, 7, 8, -1, LEAST, GREATEST}) {
             refused("checks(" + i + ")", s.checks(i));

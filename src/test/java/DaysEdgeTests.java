@@ -150,6 +150,22 @@ public final class DaysEdgeTests extends Check {
             rowsAre(s, 1, 1, left);
         }
 
+        for (int c = 1; c <= 20; c++) {
+            s.becomes(0, c);
+        }
+        due("becomes() of what is so", s.becomes(0, 20), -2);
+        due("adds() that can't be", s.adds(0, 0, 1), SplitSlices.NONE);
+        due("8", s.count(3), 8);
+        for (int left = 7; left >= 0; left--) {
+            due("undo", s.undo(), left);
+            rowsAre(s, 1, 1, 12 + left);
+        }
+        s.becomes(0, 0);
+        s.undo();
+        s.becomes(0, 0);
+        s.keep(0);
+        s.again(0);
+
         words(29, "Refused: none");
         refused("none is left", s.undo());
         rowsAre(s, 1, 1, 0);
@@ -213,6 +229,7 @@ public final class DaysEdgeTests extends Check {
         rowsAre(s, 1, 1, 4);
         due("rows()", s.undo(), 0);
         rowsAre(s);
+        undoOfOne();
         for (int i = 1; i <= 8; i++) {
             s.stores(i % 2, 0, i % 6);
         }
@@ -234,6 +251,33 @@ public final class DaysEdgeTests extends Check {
         rowsAre(s, 1, 1, 4);
     }
 
+    /** Each call alone, where another one was undone ahead of it. */
+    private static void undoOfOne() {
+        for (int call = 0; call < 7; call++) {
+            SplitSlices s = with("+1x+1y<4;+1x+0y<3");
+            s.stores(0, 0, 0);
+            String before = state(s);
+            s.drops(0);
+            s.undo();
+            s.sheet(2, 2, 4, -1);
+            due("as it was", state(s), before);
+            s.clears();
+            s.undo();
+            s.becomes(1, 2);
+            s.keep(0);
+            s.again(0);
+            s.becomes(0, 7);
+            before = state(s).replace("undo 1", "");
+            int[] answers = {call == 0 ? rows(s, "+2x+1y<4") : 0, call == 1 ? s.becomes(1, 9) : 0,
+                call == 2 ? s.adds(1, 1, 1) : 0, call == 3 ? s.drops(0) : 0, call == 4 ? s.stores(1, 1, 0) : 0,
+                call == 5 ? s.clears() : 0, call == 6 ? day(s, "d0c") : 0};
+            due("done", answers[call] > 0, true);
+            due("changed", state(s).replace("undo 2", "").equals(before), false);
+            due("undone", s.undo(), 1);
+            due("call " + call, state(s).replace("undo 1", ""), before);
+        }
+    }
+
     private static void years() {
         words(30, "(what is refused is not done): how many WHOLE POINTS there would be then; the ROW: how many ROWS would be told, how many were done");
         // R of seed 1 is 1103527590 first: 16838 % 3 is 2, drops() of (2524885223 by 65536 = 38526) % 6 = 0
@@ -250,6 +294,18 @@ public final class DaysEdgeTests extends Check {
                 drawn(seed, n, "+1x+1y<9;+1x+1y<8;+1x+1y<7;+1x+1y<6;-1x+1y<5;+1x-1y<4");
             }
         }
+
+        due("by the ROWS as they are", one.drops(0) == 0 && one.adds(0, 1, 0) == 1 && one.adds(1, 0, 1) == 2, true);
+        one.cut(0, 0, 0);
+        due("drops() of the first", one.years(1, 1), 14);
+        told(one, 1, 1);
+
+        words(30, "R = R times 1103515245 + 12345 (as ints; R is seed at first), (R without sign, by 65536) % n");
+        // R of seed -1 is -1103502900: 3191464396 by 65536 is 48697, % 3 is 1; then three draws for adds()
+        drawn(-1, 1, "+1x+2y<9");
+        SplitSlices below = with("+1x+2y<9");
+        due("R is below 0", below.years(-1, 1) >= 0, true);
+        due("adds(), not drops()", below.told(0), 2);
 
         words(30, "it is forgotten");
         SplitSlices s = with("+1x+2y<9;+3x-1y<8");
@@ -425,6 +481,10 @@ public final class DaysEdgeTests extends Check {
         t.stores(0, 0, 0);
         rows(t, "");
         due("each once: all but y = 0, x at most 2", t.count(6), 46);
+        SplitSlices first = with("-1x-1y<-1");
+        first.stores(0, 1, 0);
+        first.drops(0);
+        due("the first POINT alone", first.count(6), 1);
 
         words(33, "NONE for another what");
         for (int what : new int[] {7, -1, LEAST, GREATEST}) {

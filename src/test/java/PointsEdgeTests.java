@@ -159,6 +159,12 @@ public final class PointsEdgeTests extends Check {
         told(s, 175, 4);
         due("WHOLE", s.most(-1, 9, 3), 0);
         told(s, 43, 1);
+        SplitSlices corner = with("-1x+1y<2;+0x+1y<4");
+        due("a corner of two told ROWS", corner.most(-1, 2, 0), 0);
+        told(corner, 6, 1);
+        SplitSlices other = with("+0x+1y<4;-1x+1y<2");
+        due("in the other order", other.most(-1, 2, 0), 0);
+        told(other, 6, 1);
     }
 
     private static void noMost() {

@@ -11,6 +11,10 @@ public final class RegionsEdgeTests extends Check {
      * 2, 7/5, 0 in REGION 2.
      */
     private static final String STEPS = "+5x+5y<12";
+    private static final long[][] HIGHS = {{12, 5, 7, 5, 2, 5}, {2, 1, 7, 5, 2, 5}, {2, 1, 7, 5, 0, 1}};
+
+    /** Likewise, x + y at most 14/5: HIGHS that are just below whole numbers. */
+    private static final long[][] NEAR_HIGHS = {{14, 5, 9, 5, 4, 5}, {2, 1, 9, 5, 4, 5}, {2, 1, 9, 5, 0, 1}};
 
     public static void main(String[] args) {
         slice();
@@ -23,15 +27,16 @@ public final class RegionsEdgeTests extends Check {
 
     private static void slice() {
         words(10, "The SLICE of REGION r (0 .. 2) at k: 1, and the ROW: LOW, HIGH (four numbers)");
-        SplitSlices s = with(STEPS);
-        long[][] highs = {{12, 5, 7, 5, 2, 5}, {2, 1, 7, 5, 2, 5}, {2, 1, 7, 5, 0, 1}};
+        for (int turned = 0; turned < 4; turned++) {
+            slicesOfSteps(turned(turned, 12), turned, HIGHS);
+            slicesOfSteps(turned(turned, 14), turned, NEAR_HIGHS);
+        }
+        SplitSlices line = with("+0x+1y<2;+0x-1y<-2");
         for (int r = 0; r <= 2; r++) {
-            for (int k = 0; k <= 2; k++) {
-                for (int way = 0; way <= 1; way++) {
-                    due("slice(" + r + ", " + way + ", " + k + ")", s.slice(r, way, k), 1);
-                    told(s, 0, 1, highs[r][2 * k], highs[r][2 * k + 1]);
-                }
-            }
+            due("no SLICES beside that of y = 2", line.slice(r, 0, 3), 1);
+            told(line, 2, 1, 2, 1);
+            due("y = 2", line.slice(r, 1, 2), 1);
+            told(line, 0, 1, 6, 1);
         }
         SplitSlices box = new SplitSlices();
         for (int r = 0; r <= 2; r++) {
@@ -41,6 +46,7 @@ public final class RegionsEdgeTests extends Check {
         }
 
         words(10, "0: it is empty");
+        SplitSlices s = with(STEPS);
         for (int r = 0; r <= 2; r++) {
             due("behind the last", s.slice(r, 0, 3), 0);
             due("behind the last", s.slice(r, 1, 6), 0);
@@ -59,6 +65,12 @@ public final class RegionsEdgeTests extends Check {
         due("there in REGION 2", later.slice(2, 0, 1), 0);
         due("x = 0 has none in REGION 1", later.slice(1, 0, 0), 0);
 
+        due("rows have changed", rows(later, "+1x+1y<3"), 1);
+        due("it is not any more", later.slice(2, 0, 1), 1);
+        due("rows have changed", later.undo(), 1);
+        due("it is again", later.slice(2, 0, 1), 0);
+        due("in REGION 1, too", later.slice(1, 0, 0), 0);
+
         words(10, "NONE: another r, way, k");
         int[][] none = {{3, 0, 0}, {-1, 0, 0}, {LEAST, 0, 0}, {GREATEST, 0, 0}, {0, 2, 0}, {0, -1, 0}, {0, LEAST, 0},
             {0, GREATEST, 0}, {0, 0, 7}, {0, 0, -1}, {0, 0, LEAST}, {0, 0, GREATEST}, {2, 1, 7}, {3, 2, 7}};
@@ -67,16 +79,57 @@ public final class RegionsEdgeTests extends Check {
         }
     }
 
-    private static void inside() {
-        words(11, "Whether the POINT (x by d, y by d) is in REGION r (0 .. 3): 1, 0");
-        SplitSlices s = with(STEPS);
-        int[][] points = {{3, 0, 1, 0}, {0, 28, 12, 1}, {24, 4, 12, 2}, {12, 16, 12, 3}, {6, 6, 5, 3}, {12, 12, 12, 4},
-            {0, 2, 1, 4}, {0, 0, 12, 4}};
-        for (int[] p : points) {
-            for (int r = 0; r <= 3; r++) {
-                due("(" + p[0] + ", " + p[1] + ") by " + p[2] + ", REGION " + r, s.inside(r, p[0], p[1], p[2]), r < p[3] ? 1 : 0);
+    private static void slicesOfSteps(SplitSlices s, int turned, long[][] highs) {
+        for (int r = 0; r <= 2; r++) {
+            for (int k = 0; k <= 2; k++) {
+                long up = highs[r][2 * k];
+                long low = highs[r][2 * k + 1];
+                sliceOfSteps(s, r, 0, turnedBack(k, 1, turned & 1), up, low, turned >> 1);
+                sliceOfSteps(s, r, 1, turnedBack(k, 1, turned >> 1), up, low, turned & 1);
             }
         }
+    }
+
+    /** HIGH is told; if the other unknown is turned, 6 less it is LOW and 6 is HIGH. */
+    private static void sliceOfSteps(SplitSlices s, int r, int way, int k, long up, long low, int isTurned) {
+        due("slice(" + r + ", " + way + ", " + k + ")", s.slice(r, way, k), 1);
+        if (isTurned == 0) {
+            told(s, 0, 1, up, low);
+        } else {
+            told(s, 6 * low - up, low, 6, 1);
+        }
+    }
+
+    /** 5 x + 5 y at most c, with 6 less x for x (1), 6 less y for y (2), or both (3). */
+    private static SplitSlices turned(int turned, int c) {
+        int turnedX = turned & 1;
+        int turnedY = turned >> 1;
+        SplitSlices s = new SplitSlices();
+        due("adds", s.adds(5 - 10 * turnedX, 5 - 10 * turnedY, c - 30 * turnedX - 30 * turnedY), 1);
+        return s;
+    }
+
+    private static int turnedBack(int z, int d, int isTurned) {
+        return isTurned == 0 ? z : 6 * d - z;
+    }
+
+    private static void inside() {
+        words(11, "Whether the POINT (x by d, y by d) is in REGION r (0 .. 3): 1, 0");
+        int[][] points = {{3, 0, 1, 0}, {0, 28, 12, 1}, {24, 4, 12, 2}, {12, 16, 12, 3}, {6, 6, 5, 3}, {12, 12, 12, 4},
+            {0, 2, 1, 4}, {0, 0, 12, 4}};
+        for (int turned = 0; turned < 4; turned++) {
+            SplitSlices s = turned(turned, 12);
+            for (int[] p : points) {
+                int x = turnedBack(p[0], p[2], turned & 1);
+                int y = turnedBack(p[1], p[2], turned >> 1);
+                for (int r = 0; r <= 3; r++) {
+                    due("(" + x + ", " + y + ") by " + p[2] + ", REGION " + r, s.inside(r, x, y, p[2]), r < p[3] ? 1 : 0);
+                }
+            }
+        }
+        SplitSlices line = with("+0x+1y<2;+0x-1y<-2");
+        due("on a line", line.inside(3, 1, 4, 2), 1);
+        due("beside it", line.inside(0, 12, 25, 12), 0);
 
         words(11, "NONE: another r, d is not 1 .. 12, x or y is not 0 .. 6 d");
         SplitSlices box = new SplitSlices();
@@ -117,16 +170,21 @@ public final class RegionsEdgeTests extends Check {
 
     private static void splits() {
         words(13, "By how many ways (0 .. 2) the POINT (x by d, y by d) does not pass REGION r (0 .. 2)");
-        SplitSlices s = with(STEPS);
         int[][] due = {{0, 28, 0, 12, 1, 1, 0}, {0, 0, 28, 12, 1, 0, 1}, {0, 6, 6, 5, 0, 0, 0}, {1, 6, 6, 5, 0, 0, 0},
             {2, 6, 6, 5, 2, 1, 1}, {1, 24, 4, 12, 1, 0, 1}, {1, 4, 24, 12, 1, 1, 0}, {2, 12, 16, 12, 1, 0, 1},
             {2, 16, 12, 12, 1, 1, 0}, {2, 1, 1, 1, 0, 0, 0}, {2, 0, 0, 12, 0, 0, 0}};
-        for (int[] p : due) {
-            due("REGION " + p[0] + ", (" + p[1] + ", " + p[2] + ")", s.splits(p[0], p[1], p[2], p[3]), p[4]);
-            told(s, p[5], p[6]);
+        for (int turned = 0; turned < 4; turned++) {
+            SplitSlices t = turned(turned, 12);
+            for (int[] p : due) {
+                int x = turnedBack(p[1], p[3], turned & 1);
+                int y = turnedBack(p[2], p[3], turned >> 1);
+                due("REGION " + p[0] + ", (" + x + ", " + y + ")", t.splits(p[0], x, y, p[3]), p[4]);
+                told(t, p[5], p[6]);
+            }
         }
 
         words(13, "-2: it is not in REGION r");
+        SplitSlices s = with(STEPS);
         due("REGION 0", s.splits(0, 29, 0, 12), -2);
         due("REGION 1", s.splits(1, 28, 0, 12), -2);
         due("REGION 2", s.splits(2, 4, 24, 12), -2);
