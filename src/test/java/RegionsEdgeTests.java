@@ -45,6 +45,13 @@ public final class RegionsEdgeTests extends Check {
             told(box, 0, 1, 6, 1);
         }
 
+        SplitSlices raised = with("+0x-1y<-3;+0x+1y<4");
+        due("from 3 to 4", raised.slice(0, 0, 0), 1);
+        told(raised, 3, 1, 4, 1);
+        due("rows go", day(raised, "d0d0"), 2);
+        due("from 0 to 6", raised.slice(0, 0, 0), 1);
+        told(raised, 0, 1, 6, 1);
+
         words(10, "0: it is empty");
         SplitSlices s = with(STEPS);
         for (int r = 0; r <= 2; r++) {
