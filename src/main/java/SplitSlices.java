@@ -337,7 +337,7 @@ public final class SplitSlices {
         points.gather(now, NONE);
         points.findCorners();
         numbers.clear();
-        for (int i = 0; i < points.corners; i++) {
+        for (int i = 0; i < points.corners && i < points.chain.length; i++) {
             points.tell(points.chain[i], numbers);
         }
         return points.corners;
@@ -703,7 +703,7 @@ public final class SplitSlices {
         }
 
         boolean isTold(int k) {
-            return k >= 0 && k < rowCount;
+            return k >= 0 && k < rowCount && k < MOST_ROWS;
         }
 
         /** a (0), b (1) or c (2) of ROW k. */
@@ -711,7 +711,11 @@ public final class SplitSlices {
             if (k < 0 || k >= allRows() || what < 0 || what > 2) {
                 return 0;
             }
-            return k < rowCount ? parts[3 * k + what] : BOX[3 * (k - rowCount) + what];
+            if (isTold(k)) {
+                return parts[3 * k + what];
+            }
+            int place = 3 * (k - rowCount) + what;
+            return place >= 0 && place < BOX.length ? BOX[place] : 0;
         }
 
         void putBound(int k, int c) {
@@ -722,7 +726,7 @@ public final class SplitSlices {
 
         /** Without a look at its numbers: a text is asked for those when all its signs have been read. */
         void append(int a, int b, int c) {
-            if (rowCount < MOST_ROWS) {
+            if (rowCount >= 0 && rowCount < MOST_ROWS) {
                 parts[3 * rowCount] = a;
                 parts[3 * rowCount + 1] = b;
                 parts[3 * rowCount + 2] = c;
@@ -766,7 +770,7 @@ public final class SplitSlices {
             if (!isTold(k)) {
                 return NONE;
             }
-            for (int i = 3 * k; i < 3 * (rowCount - 1); i++) {
+            for (int i = 3 * k; i < 3 * (rowCount - 1) && i + 3 < parts.length; i++) {
                 parts[i] = parts[i + 3];
             }
             rowCount--;
@@ -784,7 +788,7 @@ public final class SplitSlices {
         }
 
         boolean hasCut(int i) {
-            return i >= 0 && i < cutCount;
+            return i >= 0 && i < cutCount && i < MOST_CUTS;
         }
 
         int addCut(long[] cut) {
@@ -1093,7 +1097,7 @@ public final class SplitSlices {
             size = 0;
             for (int x = 0; x < WHOLES; x++) {
                 for (int y = 0; y < WHOLES; y++) {
-                    if (size < xs.length && plan.holds(x, y, 1, leftOut)) {
+                    if (size >= 0 && size < xs.length && plan.holds(x, y, 1, leftOut)) {
                         xs[size] = x;
                         ys[size] = y;
                         size++;
@@ -1103,7 +1107,7 @@ public final class SplitSlices {
         }
 
         boolean has(int i) {
-            return i >= 0 && i < size;
+            return i >= 0 && i < size && i < xs.length;
         }
 
         void tell(int i, Numbers numbers) {
@@ -1129,7 +1133,7 @@ public final class SplitSlices {
 
         int cutOff(Plan plan) {
             int cutOff = 0;
-            for (int i = 0; i < size; i++) {
+            for (int i = 0; i < size && i < xs.length; i++) {
                 boolean isOff = false;
                 for (int cut = 0; cut < plan.cutCount; cut++) {
                     isOff = isOff || plan.cutExcess(cut, xs[i], ys[i], 1) > 0;
@@ -1168,10 +1172,11 @@ public final class SplitSlices {
 
         /** Corners that the way to point i leaves on its inside go, as long as so many as told are there. */
         private void link(int i, int least) {
-            while (corners >= 2 && corners >= least && turn(chain[corners - 2], chain[corners - 1], i) <= 0) {
+            while (corners >= 2 && corners >= least && corners <= chain.length
+                    && turn(chain[corners - 2], chain[corners - 1], i) <= 0) {
                 corners--;
             }
-            if (corners < chain.length) {
+            if (corners >= 0 && corners < chain.length) {
                 chain[corners] = i;
                 corners++;
             }
@@ -1263,7 +1268,7 @@ public final class SplitSlices {
         }
 
         void append(int sign) {
-            if (size < signs.length) {
+            if (size >= 0 && size < signs.length) {
                 signs[size] = sign;
                 size++;
             }
@@ -1279,7 +1284,7 @@ public final class SplitSlices {
 
         /** The sign at p; NONE, which fits nowhere, behind the last one. */
         int at(int p) {
-            return p >= 0 && p < size ? signs[p] : NONE;
+            return p >= 0 && p < size && p < signs.length ? signs[p] : NONE;
         }
 
         boolean isDigit(int p) {
@@ -1397,7 +1402,7 @@ public final class SplitSlices {
         }
 
         void tell(long number) {
-            if (size < numbers.length) {
+            if (size >= 0 && size < numbers.length) {
                 numbers[size] = number;
                 size++;
             }
@@ -1409,7 +1414,7 @@ public final class SplitSlices {
         }
 
         long at(int i) {
-            return i >= 0 && i < size ? numbers[i] : 0;
+            return i >= 0 && i < size && i < numbers.length ? numbers[i] : 0;
         }
     }
 
@@ -1425,7 +1430,9 @@ public final class SplitSlices {
         }
 
         void open(Plan now) {
-            past[size].copy(now);
+            if (size >= 0 && size < past.length) {
+                past[size].copy(now);
+            }
         }
 
         void close() {
@@ -1434,14 +1441,14 @@ public final class SplitSlices {
                 return;
             }
             Plan oldest = past[0];
-            for (int i = 0; i < MOST_UNDONE; i++) {
+            for (int i = 0; i + 1 < past.length; i++) {
                 past[i] = past[i + 1];
             }
             past[MOST_UNDONE] = oldest;
         }
 
         boolean back(Plan now) {
-            if (size == 0) {
+            if (size < 1 || size > past.length) {
                 return false;
             }
             size--;
